@@ -854,6 +854,12 @@ public final class PromiseTest {
         for (int i = 0; i < 3; i++) y.meet(i, i + 1, true);
         say(y, 4, 9, 12);
         is("the first of the chain", y.lose(), 1);
+        EveryonesThirdWord z = fresh();
+        for (int kind : new int[] {0, 0, 3}) z.man(kind, 0, 0);
+        z.meet(0, 1, true);
+        z.meet(1, 2, true);
+        say(z, 4, 9, 12);
+        is("neither hears of the other any more", z.lose(), 102);
     }
 
     private static void promise28() {
@@ -867,6 +873,8 @@ public final class PromiseTest {
         for (int i = 0; i < 12; i++) is("word " + i, x.speak(NONE, 1999, NONE, i), one[i]);
         is("nothing", x.speak(NONE, NONE, NONE, NONE), 0);
         is("1000 has a NOT", x.speak(1000, 0, 0, 6), 2);
+        is("each mark is a digit", x.speak(100, 200, 1910, 0) * 100 + x.speak(100, 200, 1910, 1), 408);
+        is("below the thousand", x.speak(100, 200, 1910, 2) * 100 + x.speak(100, 200, 1910, 5), 3605);
         refused(x, -5, () -> x.speak(0, 0, 0, 9));
         refused(x, -5, () -> x.speak(0, 0, 0, -2));
         refused(x, -5, () -> x.speak(NONE, NONE, NONE, 0));
@@ -1028,6 +1036,7 @@ public final class PromiseTest {
         put(x, 5, 3, 4, 3, 3, (1L << 32) + 9, 3, 3, 12, 99);
         is("of a long saying", x.would(5, 7, 0), 123);
         is("nothing is changed", x.status(1), 1);
+        is("of thirty", x.would(4, 30, 1), NONE);
         refused(x, -11, () -> x.would(8, -1, 0));
         refused(x, -11, () -> x.would(0, -1, 2));
         refused(x, -11, () -> x.would(0, -1, -1));
@@ -1165,6 +1174,7 @@ public final class PromiseTest {
         ran(x, 5, 0, 10, 15, 10);
         ran(x, 5, 1, 10, 90, 30, 11, 10);
         ran(x, 5, 2, 10, 90 ^ 8 ^ 5, 60, 12, 30, 11, 10, 10);
+        ran(x, 5, 2, 11, 96 ^ 9 ^ 5, 60, 12, 30, 11, 10, 10);
         ran(x, 6, 0, 10, 20, 70, 51, 10);
         ran(x, 6, 1, 10, 8, 71, 11, 70, 51, 10);
         ran(x, 6, 2, 10, -(8 ^ 4), 50, 12, 71, 11, 70, 51, 10, 70, 51, 10);
