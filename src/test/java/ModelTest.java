@@ -2,16 +2,15 @@ import java.util.ArrayList;
 import java.util.List;
 import java.util.Random;
 
-/** Long runs of drawn calls, each answered by the class and by the Model: the answers must agree. */
+/** Runs of drawn calls, as long as an object may be used, each answered by the class and by the Model: they must agree. */
 public final class ModelTest {
-    private static final int RUNS = 1500;
-    private static final int CALLS = 300;
+    private static final int RUNS = 20000;
     private static final int[] WILD = {
         Integer.MIN_VALUE, Integer.MIN_VALUE + 1, -1000, -17, -2, -1, 0, 1, 7, 8, 9, 29, 30, 31, 40, 159, 160, 161,
         255, 256, 1999, 2000, 65535, 65536, Integer.MAX_VALUE - 1, Integer.MAX_VALUE};
 
     private final Random random;
-    private final EveryonesThirdWord real = new EveryonesThirdWord();
+    private final Used real = new Used();
     private final Model model = new Model();
     private final List<String> calls = new ArrayList<>();
     private int men;
@@ -25,11 +24,19 @@ public final class ModelTest {
         int bad = 0;
         for (int run = 0; run < RUNS && bad < 5; run++) {
             ModelTest test = new ModelTest(run);
-            for (int i = 0; i < CALLS && !test.wrong; i++) test.step();
+            test.stepOn();
             if (test.wrong) bad++;
         }
         System.out.println(bad == 0 ? "model: " + RUNS + " runs agree" : "model: " + bad + " runs differ");
         if (bad != 0) System.exit(1);
+    }
+
+    private void stepOn() {
+        try {
+            while (!wrong) step();
+        } catch (Used.Spent end) {
+            // It has been used as long as the document promises anything: the run is over.
+        }
     }
 
     private void same(String call, long got, long due) {

@@ -1,111 +1,8 @@
-/** Each promise of the document: ordinary calls, the edges it names, wrong calls and the order of the refusals. */
-public final class PromiseTest {
-    private static final int NONE = -1;
-    private static int wrong = 0;
-    private static String now = "";
-
-    interface Call { long answer(); }
-
-    // ==== what the tests share
-
-    private static void is(String call, long got, long due) {
-        if (got == due) return;
-        wrong++;
-        System.out.println(now + ": " + call + " answered " + got + ", due is " + due);
-    }
-
-    private static EveryonesThirdWord fresh() {
-        return new EveryonesThirdWord();
-    }
-
-    /** A row in a shelf. */
-    private static void put(EveryonesThirdWord x, int s, int sort, long... values) {
-        is("row", x.row(s, sort, values.length), 1);
-        for (int i = 0; i < values.length; i++) is("set", x.set(s, i, values[i]), 1);
-    }
-
-    private static void say(EveryonesThirdWord x, long... words) {
-        put(x, 7, 2, words);
-        is("say", x.say(7, words.length), words.length);
-        x.show(7, NONE);
-    }
-
-    /** FILL, so many times. */
-    private static void sayFill(EveryonesThirdWord x, int n) {
-        long[] words = new long[n];
-        java.util.Arrays.fill(words, 3);
-        say(x, words);
-    }
-
-    private static int court(EveryonesThirdWord x, String text) {
-        long[] letters = new long[text.length()];
-        for (int i = 0; i < letters.length; i++) letters[i] = text.charAt(i);
-        put(x, 7, 0, letters);
-        int items = x.court(7);
-        x.show(7, NONE);
-        return items;
-    }
-
-    private static void stands(EveryonesThirdWord x, String text, int items) {
-        is("court(" + text + ")", court(x, text), items);
-        is("fault() behind " + text, x.fault(), NONE);
-    }
-
-    private static void faulty(EveryonesThirdWord x, String text, int fault) {
-        String before = state(x);
-        is("court(" + text + ")", court(x, text), -6);
-        is("fault() behind " + text, x.fault(), fault);
-        is("nothing told by " + text, before.equals(state(x)) ? 1 : 0, 1);
-    }
-
-    private static String heard(EveryonesThirdWord x, int man) {
-        StringBuilder b = new StringBuilder();
-        for (int p = 0; p < x.status(1); p++) if (x.hears(man, p) == 1) b.append(p).append(' ');
-        return b.toString().trim();
-    }
-
-    private static void hearsJust(EveryonesThirdWord x, int man, String places) {
-        if (heard(x, man).equals(places)) return;
-        wrong++;
-        System.out.println(now + ": " + man + " hears " + heard(x, man) + ", due is " + places);
-    }
-
-    /** All that an image keeps, as it can be asked. */
-    private static String state(EveryonesThirdWord x) {
-        StringBuilder b = new StringBuilder();
-        for (int i = 0; i < 6; i++) b.append(x.status(i)).append(',');
-        for (int m = 0; m < x.status(0); m++) {
-            for (int i = 0; i < 6; i++) b.append(x.manOf(m, i)).append(',');
-            b.append(x.belief(m)).append(',');
-        }
-        for (int p = 0; p < x.status(1); p++) b.append(x.word(p)).append(',');
-        return b.toString();
-    }
-
-    private static String everything(EveryonesThirdWord x) {
-        StringBuilder b = new StringBuilder(state(x));
-        for (int s = 0; s < 8; s++) {
-            b.append(x.holds(s)).append(':');
-            for (int i = 0; i < 160; i++) b.append(x.element(s, i)).append(',');
-        }
-        for (int i = 0; i < 20; i++) b.append(x.trace(i)).append(',');
-        return b.append(x.status(6)).append(',').append(x.fault()).toString();
-    }
-
-    /** The call is refused: it answers, is counted as one of its code, and changes nothing else. */
-    private static void refused(EveryonesThirdWord x, int answer, Call call) {
-        int code = answer < -7 ? answer + 10 : answer;
-        int[] counts = new int[8];
-        for (int i = 1; i < 8; i++) counts[i] = x.status(10 + i);
-        String before = everything(x);
-        is("a wrong call", call.answer(), answer);
-        is("what a wrong call leaves", before.equals(everything(x)) ? 1 : 0, 1);
-        for (int i = 1; i < 8; i++) is("status(" + (10 + i) + ")", x.status(10 + i), counts[i] + (i == -code ? 1 : 0));
-    }
-
+/** Each promise of the document: ordinary calls, some edges and some wrong calls. EdgeTest, TextTest and RefusalTest have more of these. */
+public final class PromiseTest extends Checks {
     /** A courtier in shelf 0, nothing in shelf 1, a row of three words in shelf 2. */
-    private static EveryonesThirdWord withShelves() {
-        EveryonesThirdWord x = fresh();
+    private static Used withShelves() {
+        Used x = fresh();
         x.man(0, 0, 0);
         x.show(0, 0);
         put(x, 2, 2, 0, 5, 8);
@@ -118,8 +15,7 @@ public final class PromiseTest {
         hearing();
         outcomes();
         truth();
-        System.out.println(wrong == 0 ? "promises: all as due" : "promises: " + wrong + " not as due");
-        if (wrong != 0) System.exit(1);
+        end("promises");
     }
 
     // ==== promises 1 to 8
@@ -134,8 +30,8 @@ public final class PromiseTest {
     }
 
     private static void promise1() {
-        now = "1 a new object";
-        EveryonesThirdWord x = fresh();
+        about("1 a new object");
+        Used x = fresh();
         is("NONE", EveryonesThirdWord.NONE, -1);
         for (int what = 0; what < 7; what++) is("status", x.status(what), what == 5 ? 1 : 0);
         for (int what = 11; what < 18; what++) is("status", x.status(what), 0);
@@ -145,14 +41,14 @@ public final class PromiseTest {
         is("whole", x.whole(), NONE);
         is("cover", x.cover(), 0);
         refused(x, -6, x::restore);
-        EveryonesThirdWord y = fresh();
+        Used y = fresh();
         y.man(0, 0, 0);
         is("another object", x.status(0), 0);
     }
 
     private static void promise2() {
-        now = "2 row";
-        EveryonesThirdWord x = fresh();
+        about("2 row");
+        Used x = fresh();
         for (int sort = 0; sort < 4; sort++) {
             is("row", x.row(sort, sort, 160), 1);
             is("holds", x.holds(sort), 100 + sort);
@@ -174,8 +70,8 @@ public final class PromiseTest {
     }
 
     private static void promise3() {
-        now = "3 set";
-        EveryonesThirdWord x = withShelves();
+        about("3 set");
+        Used x = withShelves();
         long big = 0x123456789abcdef0L;
         long[] kept = {(byte) big, (short) big, (int) big, big};
         for (int sort = 0; sort < 4; sort++) {
@@ -198,8 +94,8 @@ public final class PromiseTest {
     }
 
     private static void promise4() {
-        now = "4 copy";
-        EveryonesThirdWord x = withShelves();
+        about("4 copy");
+        Used x = withShelves();
         put(x, 3, 1, 1, 2, 3, 4, 5);
         put(x, 4, 1, 9, 9, 9, 9);
         put(x, 5, 3, 7);
@@ -232,13 +128,13 @@ public final class PromiseTest {
     }
 
     private static void promise5and6and7() {
-        now = "5 element";
-        EveryonesThirdWord x = withShelves();
+        about("5 element");
+        Used x = withShelves();
         is("element", x.element(2, 2), 8);
         is("none", x.element(2, 3) + x.element(2, -1) + x.element(0, 0) + x.element(1, 0) + x.element(8, 0) + x.element(-1, 0), 0);
         for (int what = 11; what < 18; what++) is("nothing is refused", x.status(what), 0);
 
-        now = "6 show";
+        about("6 show");
         is("show over a row", x.show(2, 0), 1);
         is("holds", x.holds(2), 0);
         is("element", x.element(2, 0), 0);
@@ -249,7 +145,7 @@ public final class PromiseTest {
         refused(x, -1, () -> x.show(0, 1));
         refused(x, -1, () -> x.show(0, -2));
 
-        now = "7 holds";
+        about("7 holds");
         is("no such shelf", x.holds(-1), NONE);
         is("no such shelf", x.holds(8), NONE);
         x.man(0, 0, 0);
@@ -261,8 +157,8 @@ public final class PromiseTest {
     }
 
     private static void promise8() {
-        now = "8 says";
-        EveryonesThirdWord x = fresh();
+        about("8 says");
+        Used x = fresh();
         int[] a = {0, 4, 1, 6, 5, 0, 3};
         int[] from = {2, 1, 2, 0, 1, 2, 0};
         for (int kind = 0; kind < 7; kind++) {
@@ -303,14 +199,12 @@ public final class PromiseTest {
         promise11();
         promise12and13();
         promise14();
-        promise14Faults();
-        promise14Room();
         promise15();
     }
 
     private static void promise9and10() {
-        now = "9 man";
-        EveryonesThirdWord x = fresh();
+        about("9 man");
+        Used x = fresh();
         refused(x, -1, () -> x.man(7, -1, 0));
         refused(x, -1, () -> x.man(-1, 0, 0));
         refused(x, -6, () -> x.man(0, -1, 0));
@@ -322,7 +216,7 @@ public final class PromiseTest {
         refused(x, -6, () -> x.man(0, 10, 0));
         refused(x, -1, () -> x.man(7, 0, 0));
 
-        now = "10 manOf";
+        about("10 manOf");
         sayFill(x, 10);
         for (int i = 0; i < 8; i++) {
             is("kind", x.manOf(i, 0), i % 7);
@@ -345,8 +239,8 @@ public final class PromiseTest {
     }
 
     private static void promise11() {
-        now = "11 meet";
-        EveryonesThirdWord x = fresh();
+        about("11 meet");
+        Used x = fresh();
         for (int i = 0; i < 3; i++) x.man(0, 0, i);
         is("they didn't", x.meet(0, 1, true), 0);
         is("they did", x.meet(1, 0, true), 1);
@@ -363,8 +257,8 @@ public final class PromiseTest {
     }
 
     private static void promise12and13() {
-        now = "12 say";
-        EveryonesThirdWord x = withShelves();
+        about("12 say");
+        Used x = withShelves();
         is("say", x.say(2, 2), 2);
         is("words", x.status(1), 2);
         is("word", x.word(1), 5);
@@ -389,7 +283,7 @@ public final class PromiseTest {
         refused(x, -6, () -> x.say(4, 31));
         refused(x, -5, () -> x.say(4, 32));
 
-        now = "13 word";
+        about("13 word");
         say(x, 7, 39, 0);
         is("word", x.word(0) * 10000 + x.word(1) * 100 + x.word(2), 73900);
         refused(x, -5, () -> x.word(3));
@@ -398,8 +292,8 @@ public final class PromiseTest {
     }
 
     private static void promise14() {
-        now = "14 court";
-        EveryonesThirdWord x = fresh();
+        about("14 court");
+        Used x = fresh();
         stands(x, "man 6 9 2", 1);
         is("kind", x.manOf(0, 0), 6);
         is("a", x.manOf(0, 1), 9);
@@ -424,101 +318,15 @@ public final class PromiseTest {
         refused(x, -2, () -> x.court(0));
         refused(x, -3, () -> x.court(1));
         is("a fault is counted", x.status(16), 0);
-        faulty(x, "x", 0);
+        unfit(x, "x", 0);
         is("a fault is counted", x.status(16), 1);
     }
 
-    private static void promise14Faults() {
-        now = "14 court's faults";
-        EveryonesThirdWord x = fresh();
-        x.man(0, 0, 0);
-        x.man(0, 0, 1);
-        x.meet(0, 1, true);
-        say(x, 4, 1, 8);
-        faulty(x, "", 0);
-        faulty(x, " hush", 0);
-        faulty(x, "Hush", 0);
-        faulty(x, "m", 1);
-        faulty(x, "mxn 0 0 0", 1);
-        faulty(x, "mat", 2);
-        faulty(x, "mee", 3);
-        faulty(x, "mean", 2);
-        faulty(x, "wo", 2);
-        faulty(x, "words 1", 4);
-        faulty(x, "pard", 3);
-        faulty(x, "man0 0 0", 3);
-        faulty(x, "man", 3);
-        faulty(x, "man ", 4);
-        faulty(x, "man  0 0 0", 4);
-        faulty(x, "man 0", 5);
-        faulty(x, "man 0 0", 7);
-        faulty(x, "man 0 0;", 7);
-        faulty(x, "man 0 0 0 ", 9);
-        faulty(x, "man 0 0 0 0", 9);
-        faulty(x, "man 0 0 0;", 10);
-        faulty(x, "man 0 0 0;;", 10);
-        faulty(x, "man 0 0 0; man 0 0 0", 10);
-        faulty(x, "man 0 0 0;man 0 0 0;man 0 0 3", 28);
-        faulty(x, "man 7 0 0", 4);
-        faulty(x, "man 07 0 0", 4);
-        faulty(x, "man 0 10 0", 6);
-        faulty(x, "man 0 99x", 6);
-        faulty(x, "man 0 0 3", 8);
-        faulty(x, "man 000 0 0", 6);
-        faulty(x, "man 700", 4);
-        faulty(x, "meet 0 2", 7);
-        faulty(x, "meet 2 0", 5);
-        faulty(x, "meet 1 1", 7);
-        faulty(x, "meet 1 01", 7);
-        faulty(x, "meet 01 1;", 8);
-        faulty(x, "part 0 0", 7);
-        faulty(x, "part 0 2", 7);
-        faulty(x, "part 9", 5);
-        faulty(x, "meet 0", 6);
-        faulty(x, "word 40", 5);
-        faulty(x, "word 400", 5);
-        faulty(x, "word 390", 7);
-        faulty(x, "word -1", 5);
-        faulty(x, "word 1,", 6);
-        faulty(x, "hush ", 4);
-        faulty(x, "hush;hus", 8);
-        faulty(x, "hush;word 5;meet 0 1;part 0 1;man 1 1 1;word 55", 45);
-        stands(x, "meet 0 01", 1);
-        stands(x, "man 0 0 0;meet 2 0", 2);
-        faulty(fresh(), "meet 0 1", 5);
-        faulty(fresh(), "man 0 0 0;part 0 1", 17);
-        put(x, 3, 0, 'h', 'u', 's', 'h' + 128);
-        is("letters are whole numbers", x.court(3), -6);
-        is("fault", x.fault(), 3);
-        refused(x, -6, () -> x.court(3));
-    }
-
-    private static void promise14Room() {
-        now = "14 court's room";
-        EveryonesThirdWord x = fresh();
-        for (int i = 0; i < 7; i++) x.man(0, 0, 0);
-        faulty(x, "man 0 0 0;man 0 0 0", 10);
-        stands(x, "man 0 0 0", 1);
-        faulty(x, "man 0 0 0", 0);
-        faulty(x, "hush;man", 5);
-        faulty(x, "hush;ma", 7);
-        faulty(x, "hush;manx", 5);
-        faulty(x, "hush;mbn", 6);
-        sayFill(x, 29);
-        faulty(x, "word 1;word 1", 7);
-        stands(x, "word 1", 1);
-        faulty(x, "word 1", 0);
-        faulty(x, "wor", 3);
-        faulty(x, "wore", 3);
-        faulty(x, "word", 0);
-        stands(x, "hush;word 1", 2);
-    }
-
     private static void promise15() {
-        now = "15 fault";
-        EveryonesThirdWord x = fresh();
+        about("15 fault");
+        Used x = fresh();
         is("none yet", x.fault(), NONE);
-        faulty(x, "hush;x", 5);
+        unfit(x, "hush;x", 5);
         x.man(0, 0, 0);
         x.show(0, 0);
         refused(x, -2, () -> x.court(0));
@@ -540,8 +348,8 @@ public final class PromiseTest {
     }
 
     private static void promise16() {
-        now = "16 hears";
-        EveryonesThirdWord x = fresh();
+        about("16 hears");
+        Used x = fresh();
         sayFill(x, 15);
         x.man(0, 5, 1);
         hearsJust(x, 0, "1 4 7 10 13");
@@ -566,8 +374,8 @@ public final class PromiseTest {
     }
 
     private static void promise16Edges() {
-        now = "16 hears at its edges";
-        EveryonesThirdWord x = fresh();
+        about("16 hears at its edges");
+        Used x = fresh();
         sayFill(x, 30);
         x.man(2, 9, 2);
         hearsJust(x, 0, "2 5 8 11 14 17 20 23 26");
@@ -591,8 +399,8 @@ public final class PromiseTest {
     }
 
     /** 0 hears 4 13 8, which none of the others does; 0 - 1 - 2 meet in a row. */
-    private static EveryonesThirdWord chain() {
-        EveryonesThirdWord x = fresh();
+    private static Used chain() {
+        Used x = fresh();
         x.man(0, 0, 0);
         x.man(0, 0, 1);
         x.man(0, 0, 2);
@@ -603,8 +411,8 @@ public final class PromiseTest {
     }
 
     private static void promise17and19() {
-        now = "17 sense";
-        EveryonesThirdWord x = chain();
+        about("17 sense");
+        Used x = chain();
         is("0 behind 0", x.sense(0, 0), 132);
         is("1 behind 0", x.sense(1, 0), NONE);
         is("1 behind 1", x.sense(1, 1), 1132);
@@ -617,7 +425,7 @@ public final class PromiseTest {
         refused(x, -16, () -> x.sense(0, 10));
         refused(x, -16, () -> x.sense(0, -1));
 
-        now = "19 known";
+        about("19 known");
         is("0", x.known(0, 0), 3);
         is("0 behind 1", x.known(0, 1), 6);
         is("1 behind 1", x.known(1, 1), 9);
@@ -631,13 +439,13 @@ public final class PromiseTest {
     }
 
     private static void wholeOf(long due, long... words) {
-        EveryonesThirdWord x = fresh();
+        Used x = fresh();
         say(x, words);
         is("whole", x.whole(), due);
     }
 
     private static void promise18() {
-        now = "18 whole";
+        about("18 whole");
         wholeOf(NONE);
         wholeOf(NONE, 4, 1);
         wholeOf(NONE, 1, 4, 8);
@@ -655,8 +463,8 @@ public final class PromiseTest {
     }
 
     private static void promise20() {
-        now = "20 belief";
-        EveryonesThirdWord x = chain();
+        about("20 belief");
+        Used x = chain();
         is("none at first", x.belief(0), NONE);
         x.audience(0);
         is("a wrong one", x.belief(0), 132);
@@ -684,8 +492,8 @@ public final class PromiseTest {
     }
 
     private static void promise21() {
-        now = "21 together";
-        EveryonesThirdWord x = chain();
+        about("21 together");
+        Used x = chain();
         is("sense of none", x.together(0, 0), NONE);
         is("sense of 0", x.together(1, 0), 132);
         is("sense of 0 and 2", x.together(5, 0), 1132);
@@ -706,12 +514,12 @@ public final class PromiseTest {
         is("but if only one is missing", x.together(6, 2), 0);
         say(x, 4, 9, 12, 1, 3, 3);
         is("holes behind the sense", x.together(7, 2), 1);
-        EveryonesThirdWord y = fresh();
+        Used y = fresh();
         y.man(3, 0, 0);
         y.man(0, 0, 0);
         say(y, 4, 9, 12, 3);
         is("the ear alone is sure", y.together(1, 2), 1);
-        EveryonesThirdWord z = fresh();
+        Used z = fresh();
         z.man(6, 2, 0);
         say(z, 4, 3, 3, 3, 13, 8, 9, 4);
         hearsJust(z, 0, "0 5");
@@ -724,8 +532,8 @@ public final class PromiseTest {
     }
 
     private static void promise22and23() {
-        now = "22 cover";
-        EveryonesThirdWord x = fresh();
+        about("22 cover");
+        Used x = fresh();
         is("an empty saying", x.cover(), 0);
         sayFill(x, 9);
         is("nobody", x.cover(), NONE);
@@ -745,14 +553,14 @@ public final class PromiseTest {
         sayFill(x, 1);
         is("one place", x.cover(), 1);
 
-        now = "23 ask";
+        about("23 ask");
         sayFill(x, 8);
         is("most", x.ask(0), 6);
         is("most of what is missing", x.ask(64), NONE);
         is("the first of two", x.ask(4), 3);
         is("behind 0", x.ask(1), 5);
         is("behind 0, 5, 6", x.ask(97), NONE);
-        EveryonesThirdWord y = fresh();
+        Used y = fresh();
         sayFill(y, 4);
         y.man(0, 0, 1);
         y.man(0, 0, 2);
@@ -767,8 +575,8 @@ public final class PromiseTest {
     }
 
     private static void promise24and25() {
-        now = "24 soon";
-        EveryonesThirdWord x = chain();
+        about("24 soon");
+        Used x = chain();
         is("0", x.soon(0), 2);
         is("1", x.soon(1), 1);
         is("2", x.soon(2), 2);
@@ -779,7 +587,7 @@ public final class PromiseTest {
         refused(x, -11, () -> x.soon(5));
         refused(x, -11, () -> x.soon(-1));
 
-        now = "25 wrongOnes";
+        about("25 wrongOnes");
         is("behind 0", x.wrongOnes(0), 17);
         is("behind 1", x.wrongOnes(1), 17);
         is("behind 2", x.wrongOnes(2), 16);
@@ -790,8 +598,8 @@ public final class PromiseTest {
         is("no whole: nobody is wrong", x.wrongOnes(9), 0);
         is("no whole: never", x.soon(3), NONE);
 
-        now = "24 soon is not for ever";
-        EveryonesThirdWord y = fresh();
+        about("24 soon is not for ever");
+        Used y = fresh();
         y.man(1, 5, 0);
         y.man(0, 0, 2);
         y.meet(0, 1, true);
@@ -807,8 +615,8 @@ public final class PromiseTest {
     }
 
     private static void promise26() {
-        now = "26 apart";
-        EveryonesThirdWord x = chain();
+        about("26 apart");
+        Used x = chain();
         is("one must go", x.apart(0), 2);
         is("the least of several", x.apart(1), 1);
         is("the least of several", x.apart(2), 1);
@@ -825,14 +633,14 @@ public final class PromiseTest {
         is("nothing is changed", before.equals(everything(x)) ? 1 : 0, 1);
         sayFill(x, 9);
         is("no whole: nobody must go", x.apart(3), 0);
-        EveryonesThirdWord y = chain();
+        Used y = chain();
         y.meet(0, 1, false);
         is("never anyway", y.apart(2), 0);
     }
 
     private static void promise27() {
-        now = "27 lose";
-        EveryonesThirdWord x = chain();
+        about("27 lose");
+        Used x = chain();
         is("each alone takes it from all: the first", x.lose(), 1);
         x.meet(0, 2, true);
         is("none matters: the first", x.lose(), 1);
@@ -848,13 +656,13 @@ public final class PromiseTest {
         x.meet(0, 1, false);
         is("the lesser and the other", x.lose(), 2);
         is("no meetings", fresh().lose(), NONE);
-        EveryonesThirdWord y = fresh();
+        Used y = fresh();
         y.man(3, 0, 0);
         for (int i = 0; i < 3; i++) y.man(0, 0, 0);
         for (int i = 0; i < 3; i++) y.meet(i, i + 1, true);
         say(y, 4, 9, 12);
         is("the first of the chain", y.lose(), 1);
-        EveryonesThirdWord z = fresh();
+        Used z = fresh();
         for (int kind : new int[] {0, 0, 3}) z.man(kind, 0, 0);
         z.meet(0, 1, true);
         z.meet(1, 2, true);
@@ -863,8 +671,8 @@ public final class PromiseTest {
     }
 
     private static void promise28() {
-        now = "28 speak";
-        EveryonesThirdWord x = fresh();
+        about("28 speak");
+        Used x = fresh();
         is("three of three", x.speak(0, 999, 123, NONE), 9);
         long[] due = {0, 36, 4, 1, 37, 9, 0, 36, 12};
         for (int i = 0; i < 9; i++) is("word " + i, x.speak(0, 999, 123, i), due[i]);
@@ -885,7 +693,7 @@ public final class PromiseTest {
     }
 
     private static boolean hearsWhatIsSpoken(int one, int two, int three) {
-        EveryonesThirdWord x = fresh();
+        Used x = fresh();
         int n = x.speak(one, two, three, NONE);
         long[] words = new long[n];
         for (int i = 0; i < n; i++) words[i] = x.speak(one, two, three, i);
@@ -895,8 +703,8 @@ public final class PromiseTest {
     }
 
     private static void promise29() {
-        now = "29 needs";
-        EveryonesThirdWord x = fresh();
+        about("29 needs");
+        Used x = fresh();
         x.row(2, 2, 0);
         is("nobody", x.needs(2), 0);
         int[] from = {0, 0, 1, 2, 2, 2};
@@ -923,8 +731,8 @@ public final class PromiseTest {
     }
 
     private static void promise30and31() {
-        now = "30 count";
-        EveryonesThirdWord x = fresh();
+        about("30 count");
+        Used x = fresh();
         x.man(0, 0, 0);
         x.man(4, 4, 0);
         x.man(4, 5, 0);
@@ -955,7 +763,7 @@ public final class PromiseTest {
         refused(x, -15, () -> x.count(2, 2));
         refused(x, -15, () -> x.count(2, -1));
 
-        now = "31 could";
+        about("31 could");
         is("one who counts well", x.could(2), 1);
         is("one who slips at 4", x.could(3), 2);
         is("from 1", x.could(4), 8);
@@ -971,15 +779,15 @@ public final class PromiseTest {
         refused(x, -1, () -> x.could(8));
         refused(x, -2, () -> x.could(0));
         refused(x, -3, () -> x.could(1));
-        EveryonesThirdWord y = fresh();
+        Used y = fresh();
         y.row(0, 0, 0);
         is("an empty saying: all pairs", y.count(0, 0), 93);
         is("the first of all", y.count(0, 1), 30);
     }
 
     private static void promise32() {
-        now = "32 swap";
-        EveryonesThirdWord x = fresh();
+        about("32 swap");
+        Used x = fresh();
         is("nobody", x.swap(), NONE);
         x.man(0, 0, 0);
         x.man(0, 0, 1);
@@ -998,7 +806,7 @@ public final class PromiseTest {
         is("none", x.swap(), NONE);
         say(x, 0, 0, 3, 0, 1, 3, 1, 1, 0);
         is("of several the first", x.swap(), 7);
-        EveryonesThirdWord y = fresh();
+        Used y = fresh();
         for (int i = 0; i < 3; i++) y.man(0, 0, 0);
         y.man(0, 0, 1);
         say(y, 4, 8, 3, 3, 13, 3, 0, 3, 1);
@@ -1006,8 +814,8 @@ public final class PromiseTest {
     }
 
     private static void promise33and34() {
-        now = "33 judge";
-        EveryonesThirdWord x = withShelves();
+        about("33 judge");
+        Used x = withShelves();
         is("a saying", x.judge(2, 3), NONE);
         is("none", x.judge(2, 0), NONE);
         put(x, 3, 3, 39, 1L << 32, 40, -1);
@@ -1026,7 +834,7 @@ public final class PromiseTest {
         refused(x, -15, () -> x.judge(4, 33));
         refused(x, -16, () -> x.judge(4, 31));
 
-        now = "34 would";
+        about("34 would");
         say(x, 3);
         x.man(3, 0, 0);
         is("of a courtier", x.would(2, 3, 0), NONE);
@@ -1060,8 +868,8 @@ public final class PromiseTest {
     }
 
     private static void promise35() {
-        now = "35 audience";
-        EveryonesThirdWord x = chain();
+        about("35 audience");
+        Used x = chain();
         is("behind 0", x.audience(0), 0);
         is("beliefs", x.status(4), 1);
         is("behind 1", x.audience(1), 1);
@@ -1081,8 +889,8 @@ public final class PromiseTest {
     }
 
     private static void promise36and37() {
-        now = "36 reign";
-        EveryonesThirdWord x = fresh();
+        about("36 reign");
+        Used x = fresh();
         x.man(3, 0, 0);
         x.man(0, 0, 0);
         is("a reign of one", x.reign(1), x.manOf(0, 5) + x.manOf(1, 5));
@@ -1102,8 +910,8 @@ public final class PromiseTest {
         refused(x, -6, () -> x.reign(-1));
         refused(x, -6, () -> x.reign(61));
 
-        now = "36 reigns are behind no rounds";
-        EveryonesThirdWord y = fresh();
+        about("36 reigns are behind no rounds");
+        Used y = fresh();
         y.man(3, 0, 0);
         y.man(0, 0, 0);
         y.meet(0, 1, true);
@@ -1112,7 +920,7 @@ public final class PromiseTest {
         y.reign(60);
         is("as if they did not meet", y.manOf(1, 5), x.manOf(1, 5));
 
-        now = "37 seed";
+        about("37 seed");
         is("what it was", y.seed(-7), y.seed(-7) == -7 ? x.status(5) : 0);
         is("now", y.status(5), -7);
         y.seed(Integer.MIN_VALUE);
@@ -1121,7 +929,7 @@ public final class PromiseTest {
     }
 
     /** The bodies that ran, as text. */
-    private static void ran(EveryonesThirdWord x, int man, int move, int arg, int due, int... bodies) {
+    private static void ran(Used x, int man, int move, int arg, int due, int... bodies) {
         is("act", x.act(man, move, arg), due);
         is("how many ran", x.status(6), bodies.length);
         for (int i = 0; i < bodies.length; i++) is("trace " + i, x.trace(i), bodies[i]);
@@ -1129,8 +937,8 @@ public final class PromiseTest {
     }
 
     private static void promise38and39() {
-        now = "38 act";
-        EveryonesThirdWord x = fresh();
+        about("38 act");
+        Used x = fresh();
         x.man(0, 3, 0);
         x.man(0, 3, 0);
         ran(x, 1, 0, 5, 6, 10);
@@ -1138,7 +946,7 @@ public final class PromiseTest {
         ran(x, 1, 2, 5, 12 ^ 3, 12, 11, 10, 10);
         ran(x, 1, 0, Integer.MAX_VALUE, Integer.MIN_VALUE, 10);
 
-        now = "39 trace";
+        about("39 trace");
         is("trace", x.trace(0), 10);
         is("trace", x.trace(-1), NONE);
         is("trace", x.trace(20), NONE);
@@ -1156,8 +964,8 @@ public final class PromiseTest {
     }
 
     private static void promise38Bodies() {
-        now = "38 bodies";
-        EveryonesThirdWord x = fresh();
+        about("38 bodies");
+        Used x = fresh();
         for (int kind = 0; kind < 7; kind++) x.man(kind, kind + 2, 0);
         ran(x, 1, 0, 10, 14, 20, 10);
         ran(x, 1, 1, 10, 28, 11, 20, 10);
@@ -1181,8 +989,8 @@ public final class PromiseTest {
     }
 
     private static void promise40and41() {
-        now = "40 image";
-        EveryonesThirdWord x = chain();
+        about("40 image");
+        Used x = chain();
         x.seed(77);
         x.audience(9);
         is("image", x.image(), 3);
@@ -1197,10 +1005,10 @@ public final class PromiseTest {
         put(x, 2, 3, 5);
         x.show(3, 2);
         x.act(3, 0, 5);
-        faulty(x, "hush;", 5);
+        unfit(x, "hush;", 5);
         int refusals = x.status(16);
 
-        now = "41 restore";
+        about("41 restore");
         is("restore", x.restore(), 3);
         is("all is as ahead", before.equals(state(x)) ? 1 : 0, 1);
         is("a shelf with one who is there", x.holds(0), 0);
@@ -1220,7 +1028,7 @@ public final class PromiseTest {
         x.man(0, 0, 0);
         is("a newer image", x.image(), 4);
         is("restore", x.restore(), 4);
-        EveryonesThirdWord y = fresh();
+        Used y = fresh();
         refused(y, -6, y::restore);
         is("an image of nobody", y.image(), 0);
         y.man(0, 0, 0);
@@ -1233,8 +1041,8 @@ public final class PromiseTest {
     }
 
     private static void promise42() {
-        now = "42 status";
-        EveryonesThirdWord x = chain();
+        about("42 status");
+        Used x = chain();
         x.audience(9);
         x.audience(9);
         is("courtiers", x.status(0), 3);
